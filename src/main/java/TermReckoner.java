@@ -375,11 +375,17 @@ public final class TermReckoner {
     public int writeHistory() {
         output.setLength(0);
         int runStart = 0;
-        for (int day = 1; day <= currentDay; day++) {
-            if (day == currentDay || pastStatus(day) != pastStatus(runStart)) {
-                writeRun(pastStatus(runStart), day - runStart);
+        int runStatus = FREE;
+        for (int day = 0; day < currentDay; day++) {
+            int status = pastStatus(day);
+            if (status != runStatus && day > runStart) {
+                writeRun(runStatus, day - runStart);
                 runStart = day;
             }
+            runStatus = status;
+        }
+        if (currentDay > 0) {
+            writeRun(runStatus, currentDay - runStart);
         }
         return output.length();
     }
@@ -731,7 +737,7 @@ public final class TermReckoner {
         final int[] days = new int[MAX_TERMS];
         final int[] imposedOn = new int[MAX_TERMS];
         final int[] parent = new int[MAX_TERMS];
-        /** The start of a term that is independent; of no meaning for the others. */
+        /** The start of a term while it is independent; of no meaning while it has a parent. */
         final int[] independentStart = new int[MAX_TERMS];
         final boolean[] quashed = new boolean[MAX_TERMS];
         int count;
@@ -745,7 +751,6 @@ public final class TermReckoner {
         final int[] creditDays = new int[MAX_TERMS];
 
         final int[] parentBefore = new int[MAX_TERMS];
-        final int[] independentStartBefore = new int[MAX_TERMS];
 
         int add(int parentTerm, int itsKind, int itsMonths, int itsDays, int day) {
             kind[count] = itsKind;
@@ -782,14 +787,13 @@ public final class TermReckoner {
             return moved;
         }
 
+        /** No starts are kept, because a term is given its start anew when it loses its last parent. */
         void remember() {
             System.arraycopy(parent, 0, parentBefore, 0, MAX_TERMS);
-            System.arraycopy(independentStart, 0, independentStartBefore, 0, MAX_TERMS);
         }
 
         void bringBack(int term) {
             System.arraycopy(parentBefore, 0, parent, 0, MAX_TERMS);
-            System.arraycopy(independentStartBefore, 0, independentStart, 0, MAX_TERMS);
             quashed[term] = false;
         }
 

@@ -72,6 +72,7 @@ public final class HistoryTests {
         TermReckoner x = new TermReckoner();
         Check.due("on day 0", Scene.history(x), "");
         x.advance(1);
+        Check.due("on day 1", Scene.history(x), "f1");
         x.advance(63);
         x.advance(64);
         Check.due("one run of several calls", Scene.history(x), "f128");

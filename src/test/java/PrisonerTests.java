@@ -62,6 +62,7 @@ public final class PrisonerTests {
     private static void promises34To36Greatest() {
         TermReckoner x = new TermReckoner();
         x.impose(HALF, 0, 40);
+        Check.due("decidingTerm of one", x.decidingTerm(), 0);
         Check.due("lastRelease of one", x.lastRelease(), 20);
         Check.due("lastEnd of one", x.lastEnd(), 40);
         x.impose(FULL, 0, 30);
@@ -260,6 +261,11 @@ public final class PrisonerTests {
         Check.due("without the first", x.lastReleaseWithout(0), 60 + 31);
         Check.due("without the follower", x.lastReleaseWithout(1), 85);
         Check.due("without the other", x.lastReleaseWithout(2), 111);
+        TermReckoner y = new TermReckoner();
+        y.impose(FULL, 0, 10);
+        y.impose(FULL, 0, 20);
+        Check.due("the first of two is left", y.lastReleaseWithout(1), 10);
+        Check.due("the second of two is left", y.lastReleaseWithout(0), 20);
         x.quash(0);
         Check.due("what quashing does", x.lastRelease(), 91);
     }
@@ -279,6 +285,21 @@ public final class PrisonerTests {
         Check.due("credit(2)", x.credit(2), 4);
         Check.due("release of 2", x.releaseDay(2), 61);
         Check.due("lastEnd", x.lastEnd(), 99);
+
+        TermReckoner y = new TermReckoner();
+        y.impose(FULL, 0, 10);
+        y.advance(5);
+        y.imposeConsecutive(0, FULL, 0, 10);
+        y.imposeConsecutive(1, FULL, 0, 10);
+        y.impose(FULL, 0, 3);
+        for (int t = 0; t < 4; t++) {
+            y.lastReleaseWithout(t);
+        }
+        y.quash(0);
+        Check.due("start(1) after asking and quashing", y.start(1), 0);
+        y.quash(1);
+        Check.due("start(2) after asking and quashing", y.start(2), 0);
+        Check.due("start(3) after asking and quashing", y.start(3), 5);
     }
 
     private static void promise44WrongCalls() {

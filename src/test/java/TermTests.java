@@ -256,6 +256,10 @@ public final class TermTests {
         x.impose(FULL, 0, 5);
         x.addRemand(2, 0, 30);
         releaseIs(x, "all credited", 2, 50);
+        x.impose(HALF, 0, 20);
+        x.award(42);
+        x.addRemand(3, 0, 14);
+        releaseIs(x, "credit takes licence days before added days turn them", 3, 55);
     }
 
     private static void releaseIs(TermReckoner x, String what, int term, int want) {
