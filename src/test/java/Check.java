@@ -31,6 +31,15 @@ final class Check {
         }
     }
 
+    /** For very many calls: the text is only made for a wrong answer. */
+    static void same(String call, int first, int second, long got, long want) {
+        if (got == want) {
+            checked++;
+        } else {
+            due(call + "(" + first + ", " + second + ")", got, want);
+        }
+    }
+
     static void argument(String call, Call made) {
         due(call, outcome(made), "IllegalArgumentException");
     }
