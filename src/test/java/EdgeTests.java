@@ -199,19 +199,34 @@ public final class EdgeTests {
         }
     }
 
-    /** "and is not a served day": days 10 to 14 are served, 15 to 19 licence days, the others free. */
+    /** "and is not a served day" */
     private static void servedDaysAreNoRemandDays() {
-        int[][] cases = {
+        int[][] afterTen = {
             {9, 9, 1}, {9, 10, 1}, {10, 10, 0}, {10, 14, 0}, {14, 14, 0}, {14, 15, 1}, {15, 15, 1}, {9, 15, 2},
-            {15, 19, 5}, {19, 20, 2}, {20, 20, 1}, {0, 99, 95}, {0, 0, 1}, {99, 99, 1},
+            {15, 19, 5}, {19, 20, 2}, {20, 20, 1}, {0, 299, 295}, {0, 0, 1}, {299, 299, 1},
         };
+        remandDaysAre(10, HALF, 10, "f10 c5 l5 f280", afterTen);
+        int[][] afterSixty = {
+            {59, 59, 1}, {59, 60, 1}, {60, 60, 0}, {60, 69, 0}, {63, 63, 0}, {64, 64, 0}, {63, 64, 0}, {69, 69, 0},
+            {69, 70, 1}, {70, 70, 1}, {59, 70, 2}, {0, 299, 290}, {64, 127, 58}, {128, 191, 64},
+        };
+        remandDaysAre(60, HALF, 20, "f60 c10 l10 f220", afterSixty);
+        int[][] afterHundred = {
+            {99, 99, 1}, {99, 100, 1}, {100, 100, 0}, {100, 198, 0}, {127, 128, 0}, {191, 192, 0}, {198, 198, 0},
+            {198, 199, 1}, {199, 199, 1}, {99, 199, 2}, {50, 150, 50}, {150, 250, 52}, {0, 299, 201},
+        };
+        remandDaysAre(100, FULL, 99, "f100 c99 f101", afterHundred);
+    }
+
+    /** The remand days of periods that are added on day 300, after a term of some days from a first day on. */
+    private static void remandDaysAre(int firstDay, int kind, int days, String history, int[][] cases) {
         for (int[] c : cases) {
-            TermReckoner x = Scene.at(10);
-            x.impose(HALF, 0, 10);
-            x.advance(90);
-            Check.due("history", Scene.history(x), "f10 c5 l5 f80");
-            x.impose(FULL, 12, 0);
-            Check.due("days " + c[0] + " to " + c[1], x.addRemand(1, c[0], c[1]), c[2]);
+            TermReckoner x = Scene.at(firstDay);
+            x.impose(kind, 0, days);
+            x.advance(300 - firstDay);
+            Check.due("history", Scene.history(x), history);
+            x.impose(FULL, 24, 0);
+            Check.due("days " + c[0] + " to " + c[1] + " in " + history, x.addRemand(1, c[0], c[1]), c[2]);
             creditIs(x, 1, c[2]);
         }
     }

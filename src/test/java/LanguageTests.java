@@ -1,3 +1,5 @@
+import java.lang.reflect.Field;
+import java.lang.reflect.Modifier;
 import java.nio.file.Files;
 import java.nio.file.Path;
 import java.util.List;
@@ -23,6 +25,7 @@ public final class LanguageTests {
         methodsAreShort(Files.readAllLines(CLASS));
         parametersAreFew(text);
         signsAreAscii(text);
+        classesAndFieldsAreFew();
         Check.finish("LanguageTests");
     }
 
@@ -46,5 +49,26 @@ public final class LanguageTests {
 
     private static void signsAreAscii(String text) {
         Check.due("signs beyond 127", text.chars().allMatch(sign -> sign < 128), true);
+    }
+
+    /** Some twelve classes in the file, and some twenty fields beside its constants in each. */
+    private static void classesAndFieldsAreFew() {
+        Class<?>[] inside = TermReckoner.class.getDeclaredClasses();
+        Check.due("twelve classes at most", inside.length + 1 <= 12, true);
+        fieldsAreFew(TermReckoner.class);
+        for (Class<?> one : inside) {
+            fieldsAreFew(one);
+            Check.due(one.getSimpleName() + " holds no class", one.getDeclaredClasses().length, 0);
+        }
+    }
+
+    private static void fieldsAreFew(Class<?> one) {
+        int own = 0;
+        for (Field field : one.getDeclaredFields()) {
+            boolean isStatic = Modifier.isStatic(field.getModifiers());
+            Check.due(field + " is final if it is static", isStatic && !Modifier.isFinal(field.getModifiers()), false);
+            own += isStatic ? 0 : 1;
+        }
+        Check.due(one.getSimpleName() + " has twenty fields at most", own <= 20, true);
     }
 }
