@@ -717,16 +717,16 @@ public final class TermReckoner {
         }
 
         static int dayInMonthAt(int day) {
-            int year = yearAt(day);
-            return day - yearStart(year) - daysBefore(year, monthAt(day)) + 1;
+            return day - numberOf(yearAt(day), monthAt(day), 1) + 1;
         }
 
         /** The day that is some months later; it can lie after the last day of the calendar. */
         static int later(int day, int months) {
+            int firstOfMonth = numberOf(yearAt(day), monthAt(day), 1);
             int monthsFromJanuary = monthAt(day) - 1 + months;
             int year = yearAt(day) + monthsFromJanuary / 12;
             int month = monthsFromJanuary % 12 + 1;
-            return numberOf(year, month, Math.min(dayInMonthAt(day), daysIn(year, month)));
+            return numberOf(year, month, Math.min(day - firstOfMonth + 1, daysIn(year, month)));
         }
     }
 
