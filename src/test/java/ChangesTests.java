@@ -19,6 +19,7 @@ public final class ChangesTests {
         promise12EightPeriods();
         promise13Quash();
         promise13QuashOfAMiddleTerm();
+        promise13QuashInBothOrders();
         promise13LosesCreditAndAwards();
         promise14Award();
         promise14EightAwards();
@@ -249,6 +250,51 @@ public final class ChangesTests {
         Check.due("chain of 2", x.chainLength(2), 2);
         x.quash(2);
         Check.due("a quashed term followed 0", x.quash(0), 0);
+    }
+
+    /** Terms 2 and 3 follow 1, and 4 follows 2. */
+    private static TermReckoner branches() {
+        TermReckoner x = Scene.at(7);
+        x.impose(FULL, 0, 50);
+        x.advance(3);
+        x.imposeConsecutive(0, FULL, 0, 40);
+        x.imposeConsecutive(1, FULL, 0, 30);
+        x.advance(3);
+        x.imposeConsecutive(1, FULL, 0, 20);
+        x.imposeConsecutive(2, FULL, 0, 10);
+        return x;
+    }
+
+    private static void promise13QuashInBothOrders() {
+        TermReckoner x = branches();
+        Check.due("two followed 1", x.quash(1), 2);
+        Check.due("parent of 2", x.parentOf(2), 0);
+        Check.due("parent of 3", x.parentOf(3), 0);
+        Check.due("parent of 4 stays", x.parentOf(4), 2);
+        Check.due("start of 2", x.start(2), 57);
+        Check.due("start of 3", x.start(3), 57);
+        Check.due("start of 4", x.start(4), 87);
+        Check.due("total length of 4", x.totalLength(4), 90);
+        Check.due("two follow 0 now", x.quash(0), 2);
+        startsWhereTheFirstDid(x);
+
+        TermReckoner y = branches();
+        Check.due("one followed 0", y.quash(0), 1);
+        Check.missing("1 is independent", () -> y.parentOf(1));
+        Check.due("start of 1", y.start(1), 7);
+        Check.due("start of 4 after 1 and 2", y.start(4), 77);
+        Check.due("two follow 1 still", y.quash(1), 2);
+        startsWhereTheFirstDid(y);
+    }
+
+    private static void startsWhereTheFirstDid(TermReckoner x) {
+        Check.missing("2 is independent", () -> x.parentOf(2));
+        Check.missing("3 is independent", () -> x.parentOf(3));
+        Check.due("start of 2 where 0 did", x.start(2), 7);
+        Check.due("start of 3 where 0 did", x.start(3), 7);
+        Check.due("start of 4 after 2", x.start(4), 37);
+        Check.due("chain of 4", x.chainLength(4), 2);
+        Check.due("release of 4", x.releaseDay(4), 47);
     }
 
     private static void promise13LosesCreditAndAwards() {

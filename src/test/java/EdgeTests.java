@@ -233,7 +233,9 @@ public final class EdgeTests {
 
     /** "max(c - k, 0)": a credit of one less than the custodial part, of just as much, of more, and of all. */
     private static void creditAndCustodialPart() {
-        int[][] cases = {{0, 60, 70}, {9, 51, 61}, {10, 50, 60}, {11, 50, 59}, {19, 50, 51}, {20, 50, 50}, {21, 50, 50}};
+        int[][] cases = {
+            {0, 60, 70}, {9, 51, 61}, {10, 50, 60}, {11, 50, 59}, {19, 50, 51}, {20, 50, 50}, {21, 50, 50},
+        };
         for (int[] c : cases) {
             TermReckoner x = Scene.at(50);
             x.impose(HALF, 0, 20);

@@ -21,6 +21,7 @@ public final class EmptyAndFullTests {
         theSixthRecallIsTheLast();
         aRecallThatEndedAtOnceCounts();
         theLastCurrentDay();
+        theLastOf512Calls();
         theStatesOfTheTests();
         Check.finish("EmptyAndFullTests");
     }
@@ -300,6 +301,32 @@ public final class EmptyAndFullTests {
         Check.due("history", Scene.history(x), "f14600 c9");
         Check.due("statusOn the day before", x.statusOn(14608), IN_CUSTODY);
         Check.argument("statusOn the last day itself", () -> x.statusOn(14609));
+    }
+
+    /** "An object is used for at most 512 calls after it has been made": the last one answers as any other. */
+    private static void theLastOf512Calls() {
+        TermReckoner days = new TermReckoner();
+        days.impose(HALF, 12, 99);
+        for (int call = 2; call <= 511; call += 2) {
+            Check.due("status before the call " + call, days.status(), call / 2 <= 233 ? IN_CUSTODY : ON_LICENCE);
+            Check.due("call " + call, days.advance(1), call / 2 <= 233 ? 1 : 0);
+        }
+        Check.due("the last call: servedDays after 255 days", days.servedDays(), 233);
+
+        TermReckoner output = new TermReckoner();
+        output.advance(400);
+        for (int call = 2; call <= 511; call++) {
+            Check.due("call " + call + ": writeHistory", output.writeHistory(), 4);
+        }
+        Check.due("the last call: outputAt(3)", output.outputAt(3), '0');
+
+        TermReckoner questions = Scene.at(400);
+        questions.impose(FULL, 12, 0);
+        questions.addRemand(0, 100, 199);
+        for (int call = 4; call <= 511; call++) {
+            Check.due("call " + call + ": isConsistent", questions.isConsistent(), true);
+        }
+        Check.due("the last call: releaseDay", questions.releaseDay(0), 400 + 365 - 100);
     }
 
     /** What the other tests rely on. */

@@ -9,15 +9,19 @@ import java.util.HashMap;
 import java.util.List;
 import java.util.Map;
 import java.util.TreeSet;
+import java.util.regex.Matcher;
+import java.util.regex.Pattern;
 
 /** The public face: exactly the constants, the constructor and the methods that the document lists. */
 public final class FaceTests {
     private static final Path DOCUMENT = Path.of("../shared/DOC.md");
+    private static final Path CLASS = Path.of("src/main/java/TermReckoner.java");
 
     public static void main(String[] args) throws Exception {
         membersAreThoseOfTheDocument();
         constants();
         nothingElseIsVisible();
+        sections();
         Check.finish("FaceTests");
     }
 
@@ -112,5 +116,37 @@ public final class FaceTests {
             Check.due(inside.getSimpleName() + " is static", Modifier.isStatic(inside.getModifiers()), true);
             Check.due(inside.getSimpleName() + " is public", Modifier.isPublic(inside.getModifiers()), false);
         }
+    }
+
+    /** "Ahead of the calls .. the interface says: ---- calendar.", and so on: the calls of each section, in order. */
+    private static void sections() throws Exception {
+        String document = Files.readString(DOCUMENT);
+        String text = Files.readString(CLASS);
+        Pattern sentence = Pattern.compile("Ahead of the calls (.*?) the interface says: ---- (.*?)\\.");
+        Matcher section = sentence.matcher(document);
+        int found = 0;
+        while (section.find()) {
+            String want = section.group(1).replace("`", "");
+            Check.due("the calls ahead of which stands " + section.group(2), callsBelow(section.group(2), text), want);
+            found++;
+        }
+        Check.due("sections", found, 7);
+    }
+
+    private static String callsBelow(String section, String text) {
+        String opening = "    // ---- " + section + "\n";
+        int start = text.indexOf(opening);
+        if (start < 0) {
+            return "no such section";
+        }
+        int from = start + opening.length();
+        int to = text.indexOf("    // ---- ", from);
+        String below = text.substring(from, to < 0 ? text.length() : to);
+        List<String> calls = new ArrayList<>();
+        Matcher call = Pattern.compile("    public \\w+ (\\w+)\\(").matcher(below);
+        while (call.find()) {
+            calls.add(call.group(1));
+        }
+        return String.join(", ", calls);
     }
 }

@@ -15,6 +15,7 @@ public final class TermTests {
         promise20ParentOf();
         promises21And22Chains();
         promises23To25StartsAndLengths();
+        startsAndLengthsStay();
         promise24LengthAtTheEndOfAMonth();
         promise26CustodialPart();
         promises27And28Credit();
@@ -100,6 +101,38 @@ public final class TermTests {
         x.advance(300);
         Check.due("start(2) after an award and days", x.start(2), 412);
         Check.due("totalLength(2) after them", x.totalLength(2), 411);
+    }
+
+    /** "Credit, added days and recalls do not change starts and lengths." */
+    private static void startsAndLengthsStay() {
+        TermReckoner x = Scene.at(31);
+        x.impose(HALF, 1, 0);
+        x.imposeConsecutive(0, DETENTION, 0, 10);
+        startsAndLengthsAre(x, "at first");
+        Check.due("credit of 0", x.addRemand(0, 0, 11), 12);
+        Check.due("credit of 1", x.addRemand(1, 20, 23), 16);
+        startsAndLengthsAre(x, "with credit");
+        x.award(2);
+        Check.due("release of 1", x.releaseDay(1), 31 + 15 + 10 - 16 + 2);
+        startsAndLengthsAre(x, "with added days");
+        x.giveBack(0, 1);
+        startsAndLengthsAre(x, "with a day given back");
+        x.advance(10);
+        Check.due("the end of a recall", x.recall(5), 46);
+        startsAndLengthsAre(x, "in a recall");
+        x.award(3);
+        x.advance(9);
+        startsAndLengthsAre(x, "after a recall");
+    }
+
+    /** A month from 1 February 2000, and ten days more from 1 March. */
+    private static void startsAndLengthsAre(TermReckoner x, String when) {
+        Check.due("start(0) " + when, x.start(0), 31);
+        Check.due("length(0) " + when, x.length(0), 29);
+        Check.due("totalLength(0) " + when, x.totalLength(0), 29);
+        Check.due("start(1) " + when, x.start(1), 60);
+        Check.due("length(1) " + when, x.length(1), 10);
+        Check.due("totalLength(1) " + when, x.totalLength(1), 39);
     }
 
     /** Day 30 is 31 January 2000, day 59 is 29 February. */
